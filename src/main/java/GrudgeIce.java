@@ -1594,8 +1594,10 @@ public final class GrudgeIce {
                 if (!grudges.frozen(g)) {
                     continue;
                 }
-                grudges.ice[g] = Math.min(MOST_ICE, grudges.ice[g] + turnsBy(law, FREEZE, g));
-                int melted = Math.max(0, turnsBy(law, MELT, g) - turnsBy(law, HARDEN, g));
+                tell(law, g);
+                grudges.ice[g] = Math.min(MOST_ICE, grudges.ice[g] + amountBy(law, FREEZE, g));
+                write(law.values, ICE - GRUDGE, grudges.ice[g]);
+                int melted = Math.max(0, amountBy(law, MELT, g) - amountBy(law, HARDEN, g));
                 grudges.ice[g] = Math.max(0, grudges.ice[g] - melted);
                 grudges.age[g] = Math.min(MOST_AGE, grudges.age[g] + 1);
                 if (grudges.ice[g] == 0) {
@@ -1609,9 +1611,14 @@ public final class GrudgeIce {
 
         /* What a GRUDGE freezes, melts or hardens by now. */
         int turnsBy(Law law, int kind, int g) {
+            tell(law, g);
+            return amountBy(law, kind, g);
+        }
+
+        /* The same, by the values that the law was told last. */
+        private int amountBy(Law law, int kind, int g) {
             int first = kind == MELT ? heatNow() : 0;
             if (law.lines != NONE) {
-                tell(law.values, g);
                 return first + law.sum(kind);
             }
             if (kind != FREEZE || g < 0 || g >= MOST_GRUDGES) {
@@ -1620,10 +1627,11 @@ public final class GrudgeIce {
             return cell(bitter, grudges.slight[g]) + (grudges.nursed[g] ? 5 : 0);
         }
 
-        private void tell(int[] values, int g) {
-            if (g < 0 || g >= MOST_GRUDGES) {
+        private void tell(Law law, int g) {
+            if (law.lines == NONE || g < 0 || g >= MOST_GRUDGES) {
                 return;
             }
+            int[] values = law.values;
             write(values, 0, g);
             write(values, AGE - GRUDGE, grudges.age[g]);
             write(values, ICE - GRUDGE, grudges.ice[g]);
@@ -1796,10 +1804,13 @@ public final class GrudgeIce {
 
     /** Who has a grudge with whom, as bits of families. */
     private static final class Web {
+        private static final int MOST_PAIRS = 15;
+
         final int[] near = new int[MOST_FAMILIES];
         final int[] onward = new int[MOST_FAMILIES];
         final int[] with = new int[MOST_FAMILIES];
         final int[] best = new int[MOST_FAMILIES];
+        final int[] pairs = new int[MOST_GRUDGES];
         int families = 0;
         int most = 0;
 
@@ -1873,16 +1884,16 @@ public final class GrudgeIce {
         }
 
         int bestThaw(Town town, int least) {
+            tellPairs(town.grudges);
             int frozen = town.grudges.frozenOnes();
             int bestSet = NONE;
-            int bestFriends = NONE;
+            int fewestLinked = MOST_PAIRS + 1;
             for (int set = 0; set <= frozen; set++) {
-                if ((set & ~frozen) == 0 && iceWithout(town.grudges, set) >= least) {
-                    spin(town, set);
-                    int friends = strangers();
+                if ((set & ~frozen) == 0) {
+                    int linked = linkedWithout(town.grudges, set, least);
                     boolean fewer = Integer.bitCount(set) < Integer.bitCount(bestSet);
-                    if (friends > bestFriends || friends == bestFriends && fewer) {
-                        bestFriends = friends;
+                    if (linked < fewestLinked || linked == fewestLinked && fewer && bestSet != NONE) {
+                        fewestLinked = linked;
                         bestSet = set;
                     }
                 }
@@ -1890,14 +1901,26 @@ public final class GrudgeIce {
             return bestSet;
         }
 
-        private static int iceWithout(Grudges grudges, int set) {
-            int sum = 0;
-            for (int g = 0; g < grudges.count; g++) {
-                if (grudges.frozen(g) && !has(set, g)) {
-                    sum += grudges.ice[g];
+        /* Of each GRUDGE the bit of its two families; none of one that is THAWED. */
+        private void tellPairs(Grudges grudges) {
+            for (int g = 0; g < MOST_GRUDGES; g++) {
+                int more = Math.max(grudges.from[g], grudges.to[g]);
+                int less = Math.min(grudges.from[g], grudges.to[g]);
+                pairs[g] = grudges.frozen(g) ? 1 << more * (more - 1) / 2 + less : 0;
+            }
+        }
+
+        /* How many pairs have a GRUDGE without those of the set; more than there can be, if too little ice is left. */
+        private int linkedWithout(Grudges grudges, int set, int least) {
+            int ice = 0;
+            int linked = 0;
+            for (int g = 0; g < MOST_GRUDGES; g++) {
+                if (pairs[g] != 0 && !has(set, g)) {
+                    ice += grudges.ice[g];
+                    linked |= pairs[g];
                 }
             }
-            return sum;
+            return ice >= least ? Integer.bitCount(linked) : MOST_PAIRS + 1;
         }
 
         void findPairs(Families all) {

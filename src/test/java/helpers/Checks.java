@@ -4,7 +4,7 @@ import java.nio.charset.StandardCharsets;
 final class Checks {
     /** A call of the face. */
     interface Call {
-        long answer();
+        Object answer();
     }
 
     private static int wrong = 0;
@@ -55,10 +55,6 @@ final class Checks {
 
     static void noWhat(String what, Call call) {
         throwsThat(what, java.util.NoSuchElementException.class, call);
-    }
-
-    static long bit(boolean is) {
-        return is ? 1 : 0;
     }
 
     /** These bytes, and no others, are the TAPE. */
