@@ -137,6 +137,10 @@ public final class QuestionsTest {
             Checks.due("ask " + i, x.ask(), ask[i]);
             Checks.due("the tape is used up", x.end(1), false);
         }
+        GrudgeIce nines = Checks.of("slight a bitter 9 deep 0;slight b bitter 9 deep 0;slight c bitter 9 deep 0;slight d bitter 9 deep 1",
+                "slight e bitter 9 deep 2;slight f bitter 9 deep 3;slight g bitter 9 deep 4;slight h bitter 9 deep 5");
+        Checks.tape(nines, new byte[0]);
+        Checks.due("parts of 8 and 3", nines.ask(), 1);
         x.forgive(0);
         x.forgive(2);
         Checks.tape(x, new byte[0]);
@@ -174,6 +178,7 @@ public final class QuestionsTest {
         Checks.due("all have one", x.rota(), 0);
         x.forgive(0);
         Checks.due("one has none", x.rota(), 1);
+        Checks.due("0 has none", Checks.of(six(), grudges("12 34 51")).rota(), 1);
     }
 
     private static void webs() {
@@ -252,8 +257,12 @@ public final class QuestionsTest {
         Checks.due("just 3 times", y.swap(0, 1), false);
         Checks.due("like", Checks.of("family pride 1 needs 10 larder 5;family pride 1 needs 1 larder 5").swap(0, 1), false);
         GrudgeIce z = Checks.of("family pride 1 needs 10 larder 3;family pride 1 needs 1 larder 4");
-        // to 1: its own 4 are 2, 3 are 3
+        // to 0: its own 3 are 3, 4 are 4; to 1: its own 4 are 2, 3 are 3
         Checks.due("2 less for each above", z.swap(0, 1), true);
+        GrudgeIce u = Checks.of("family pride 1 needs 10 larder 5;family pride 1 needs 2 larder 8");
+        Checks.due("its own 8 are 4, 5 are 5", u.swap(0, 1), true);
+        GrudgeIce v = Checks.of("family pride 1 needs 10 larder 3;family pride 1 needs 2 larder 8");
+        Checks.due("its own 8 are 4, 3 are 3", v.swap(0, 1), false);
         Checks.noNumber("both are one", () -> x.swap(3, 3));
         Checks.noSuch("swap", () -> x.swap(5, 5));
         Checks.noSuch("swap", () -> x.swap(0, -1));

@@ -26,7 +26,8 @@ public final class SeasonsTest {
             {"ice < ice", "0"}, {"0 > 0", "0"}, {"1 > 0", "3"}, {"999 < 999 + 1", "3"},
             {"nursed and mutual", "0"}, {"nursed or mutual", "3"}, {"nursed or mutual and propped", "1"},
             {"(nursed or mutual) and propped", "0"}, {"propped and nursed or mutual", "2"},
-            {"not nursed and propped", "0"}, {"not (nursed and propped)", "3"}, {"not not nursed", "1"},
+            {"nursed or propped or propped", "1"}, {"propped or nursed or propped", "1"}, {"propped or propped or nursed", "1"},
+            {"nursed and not propped and not mutual", "1"}, {"not nursed and propped", "0"}, {"not (nursed and propped)", "3"}, {"not not nursed", "1"},
             {"not nursed or nursed and 1 < 2", "3"}, {"nursed and 1 > 2 or mutual and 2 > 1 or propped", "2"},
         };
         for (int i = 0; i < rows.length; i++) {

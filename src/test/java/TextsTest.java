@@ -159,6 +159,16 @@ public final class TextsTest {
         wrongTown("kiss 1\u00a0", 6);
         wrongTown("\t", 0);
         wrongTown("melt 1", 0);
+        wrongTown("family pride 1 needs 100", 21);
+        wrongTown("family pride 1 needs 1 larder 1000", 30);
+        wrongTown("slight a bitter 10 deep 1", 16);
+        wrongTown(TWO + ";grudge 0 1 over a ice 1000", 68);
+        wrongTown(TWO + ";grudge 0 1 over i ice 1", 62);
+        wrongTown("heat spring 21", 12);
+        wrongTown("store 1000", 6);
+        wrongTown("kiss 101", 5);
+        wrongTown("time 1000", 5);
+        wrongTown(times(15, "time 1"), 98);
         wrongTown(times(7, FAMILY), 138);
         wrongTown(times(14, "time 1") + ";", 98);
         wrongTown(times(14, "time 1") + " ; cold", 100);
@@ -204,6 +214,8 @@ public final class TextsTest {
         rightLaw("freeze 1 if grudge+age+ice+pride<bitter+deep+heat+season+999", 1);
         wrongLaw("freeze", 6);
         wrongLaw("freeze 101", 7);
+        wrongLaw("melt 101", 5);
+        wrongLaw("harden 0000", 7);
         wrongLaw("freeze 1 when", 9);
         wrongLaw("melt 5 if", 9);
         wrongLaw("melt 5 if heat", 14);
