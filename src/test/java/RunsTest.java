@@ -75,6 +75,7 @@ public final class RunsTest {
 
     /** Mostly ordinary, at times an edge, at times beyond it. */
     private int near(int least, int most) {
+        if (once(80)) return List.of(Integer.MIN_VALUE, Integer.MAX_VALUE, -1, random.nextInt()).get(below(4));
         switch (below(12)) {
             case 0: return least;
             case 1: return most;
