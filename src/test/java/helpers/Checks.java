@@ -1,28 +1,50 @@
+import java.io.IOException;
 import java.nio.charset.StandardCharsets;
+import java.nio.file.Files;
+import java.nio.file.Path;
 
-/** Compares answers with those that are due, and counts the wrong ones. */
-final class Checks {
+/** Compares answers with those that are due, and counts the wrong ones; tests may extend it for short names. */
+class Checks {
     /** A call of the face. */
     interface Call {
         Object answer();
     }
 
+    private static final int MOST_SHOWN = 40;
+    private static final String DOCUMENT = read(Path.of("../shared/DOC.md"));
+
     private static int wrong = 0;
     private static int told = 0;
+    private static String sentence = "";
 
-    private Checks() {
+    Checks() {
+    }
+
+    /** The next checks are of these words, which the document must hold. */
+    static void sentence(String words) {
+        sentence = words;
+        told++;
+        if (!DOCUMENT.contains(plain(words))) {
+            fail("the document does not say this");
+        }
     }
 
     static void due(String what, long got, long want) {
         told++;
         if (got != want) {
-            wrong++;
-            System.out.println(what + ": answered " + got + ", due is " + want);
+            fail(what + ": answered " + got + ", due is " + want);
         }
     }
 
     static void due(String what, boolean got, boolean want) {
         due(what, got ? 1 : 0, want ? 1 : 0);
+    }
+
+    static void same(String what, String got, String want) {
+        told++;
+        if (!got.equals(want)) {
+            fail(what + ": is\n    " + got + "\n  due is\n    " + want);
+        }
     }
 
     /** The call throws just this exception. */
@@ -37,8 +59,7 @@ final class Checks {
             }
             got = "threw " + e.getClass().getName();
         }
-        wrong++;
-        System.out.println(what + ": " + got + ", due is " + due.getName());
+        fail(what + ": " + got + ", due is " + due.getName());
     }
 
     static void noSuch(String what, Call call) {
@@ -95,11 +116,85 @@ final class Checks {
         return town;
     }
 
+    static GrudgeIce rightTown(String text) {
+        GrudgeIce town = new GrudgeIce();
+        rightTown(town, text);
+        return town;
+    }
+
+    static void rightTown(GrudgeIce town, String text) {
+        tape(town, text);
+        due("right: " + text, answers(town::town), true);
+        due("no fault: " + text, town.fault(), -1);
+    }
+
+    static GrudgeIce rightLaw(String text) {
+        GrudgeIce town = new GrudgeIce();
+        tape(town, text);
+        due("right: " + text, answers(town::law), true);
+        due("no fault: " + text, town.fault(), -1);
+        return town;
+    }
+
+    static void wrongTown(String marked) {
+        wrongTown(new GrudgeIce(), marked);
+    }
+
+    /** The text of THE TOWN is wrong; a ^ stands ahead of its first wrong byte, and is no part of it. */
+    static void wrongTown(GrudgeIce town, String marked) {
+        tape(town, marked.replace("^", ""));
+        noNumber("wrong: " + marked, town::town);
+        due("fault: " + marked, town.fault(), marked.indexOf('^'));
+        due("the tape is used up: " + marked, town.end(1), false);
+    }
+
+    /** THE LAW is wrong; a ^ stands ahead of its first wrong byte, and is no part of it. */
+    static void wrongLaw(String marked) {
+        GrudgeIce town = new GrudgeIce();
+        tape(town, marked.replace("^", ""));
+        noNumber("wrong: " + marked, town::law);
+        due("fault: " + marked, town.fault(), marked.indexOf('^'));
+        due("no law: " + marked, town.count(3), -1);
+        due("the tape is used up: " + marked, town.end(1), false);
+    }
+
+    /** The same LINE so many times. */
+    static String times(int n, String line) {
+        return n <= 0 ? "" : (line + ";").repeat(n - 1) + line;
+    }
+
     /** Prints how it went; ends with 1 if an answer was wrong. */
     static void end(String name) {
         System.out.println(name + ": " + told + " checks, " + wrong + " wrong");
         if (wrong != 0 || told == 0) {
             System.exit(1);
+        }
+    }
+
+    private static boolean answers(Call call) {
+        try {
+            call.answer();
+            return true;
+        } catch (RuntimeException e) {
+            return false;
+        }
+    }
+
+    private static void fail(String how) {
+        wrong++;
+        if (wrong > MOST_SHOWN) return;
+        System.out.println((sentence.isEmpty() ? "" : "\"" + sentence + "\"\n  ") + how);
+    }
+
+    private static String plain(String text) {
+        return text.replaceAll("\\s+", " ").trim();
+    }
+
+    private static String read(Path file) {
+        try {
+            return plain(Files.readString(file));
+        } catch (IOException e) {
+            throw new IllegalStateException("there is no " + file, e);
         }
     }
 }
