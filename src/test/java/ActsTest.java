@@ -223,11 +223,7 @@ public final class ActsTest {
             if (which != 1) Checks.noSuch("no grudge 2", () -> x.grudge(2, 0));
         }
         GrudgeIce x = Checks.of(TOWN, GRUDGES);
-        long[] signs = new long[14];
-        for (int n = 0; n < 14; n++) {
-            signs[n] = sign(x);
-            x.store(1, n + 1);
-        }
+        for (int n = 0; n < 14; n++) x.store(1, n + 1);
         Checks.due("12 are remembered", x.count(11), 12);
         for (int n = 13; n >= 2; n--) {
             Checks.due("undo", x.undo(), true);

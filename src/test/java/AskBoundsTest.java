@@ -357,6 +357,8 @@ public final class AskBoundsTest extends Checks {
         due("bitter 0 and 9 are parts as well", ask(ends, 1, 5, 1, 5), 0);
         GrudgeIce nines = of("slight a bitter 9 deep 1;slight b bitter 9 deep 2;slight c bitter 9 deep 3", "slight d bitter 9 deep 3");
         due("a part of nines is one", ask(nines, 0, 9, 0, 9), 1);
+        GrudgeIce both = of("slight a bitter 1 deep 1;slight h bitter 1 deep 2");
+        due("the first and the last slight", ask(both, 0, 1, 0, 1), 1);
         GrudgeIce zeros = of("slight a bitter 1 deep 9;slight b bitter 2 deep 9");
         due("a part of zeros is one", ask(zeros), 0);
     }

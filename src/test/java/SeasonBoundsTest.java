@@ -375,6 +375,12 @@ public final class SeasonBoundsTest extends Checks {
         GrudgeIce x = of(THREE, grudge(3), grudge(30));
         x.seasons(1);
         due("one more", x.hot(), 9);
+        GrudgeIce winter = of(THREE, COLD, grudge(9), "heat winter 9");
+        due("in winter alone", winter.hot(), 4);
+        town(winter, "time 999");
+        due("it is winter", winter.hot(), 1);
+        town(winter, "time 1;heat winter 1");
+        due("nine winters, the last in 35", winter.hot(), 35);
         GrudgeIce kissed = of(THREE, COLD, grudge(1), "kiss 100");
         due("without kisses none", kissed.hot(), -1);
     }
