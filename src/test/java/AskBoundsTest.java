@@ -210,6 +210,33 @@ public final class AskBoundsTest extends Checks {
         due("998", one.thaw(998), 0);
     }
 
+    /** Two GRUDGES each: between two pairs of families one of both can be let thaw, between one pair neither alone. */
+    private static void pairs() {
+        sentence("the most pairs of families have no GRUDGE between them (either way)");
+        for (int a = 0; a < 36; a++) {
+            for (int b = 0; b < 36; b++) {
+                int from = a / 6, to = a % 6, from2 = b / 6, to2 = b % 6;
+                if (from == to || from2 == to2) continue;
+                boolean alike = from == from2 && to == to2 || from == to2 && to == from2;
+                String told = from + "" + to + ":10 " + from2 + to2 + ":10";
+                GrudgeIce x = of(SIX, grudges(told));
+                due("of 20 ten " + told, x.thaw(10), alike ? 0 : 1);
+                due("all " + told, x.thaw(0), 3);
+                due("friends " + told, x.friends(), alike ? 14 : 13);
+            }
+        }
+        GrudgeIce ten = of(SIX, grudges("01:1 02:2 30:4 40:8 05:16 12:32 31:64 14:128 51:256 23:488"));
+        for (int x = 0; x <= 999; x += 37) {
+            int due = 0;
+            for (int set = 0; set < 1024; set++) {
+                int left = 0;
+                for (int g = 0; g < 10; g++) if ((set >> g & 1) == 0) left += g < 9 ? 1 << g : 488;
+                if (left >= x && Integer.bitCount(set) > Integer.bitCount(due)) due = set;
+            }
+            due("ten pairs " + x, ten.thaw(x), due);
+        }
+    }
+
     private static void friends() {
         sentence("FRIENDS: how many such pairs there are now.");
         int[] due = {0, 0, 1, 3, 6, 10, 15};
@@ -593,6 +620,7 @@ public final class AskBoundsTest extends Checks {
         tight();
         tightTies();
         thaw();
+        pairs();
         friends();
         camps();
         cuts();

@@ -36,6 +36,28 @@ public final class SeasonBoundsTest extends Checks {
         due("no more", y.grudge(0, 4), 999);
     }
 
+    private static void lastOnes() {
+        sentence("each GRUDGE that is not THAWED, by numbers:");
+        String[] words = {"grudge > 8", "age > 8", "ice > 899", "nursed", "pride > 0", "bitter > 0", "deep > 0"};
+        for (String word : words) {
+            GrudgeIce x = of("family pride 0 needs 0;family pride 9 needs 0;family pride 0 needs 0", "slight h bitter 9 deep 9;" + COLD,
+                    times(9, "grudge 0 2 over a ice 50"), "grudge 1 0 over h ice 900 age 9 nursed");
+            due("without a law the tenth", x.grudge(9, 7), 14);
+            due("the first", x.grudge(0, 7), 0);
+            x.insult(0, 2, 0);
+            law(x, "freeze 3;freeze 50 if " + word);
+            due(word, x.grudge(9, 7), 53);
+            due(word + " of another one", x.grudge(8, 7), 3);
+            x.seasons(1);
+            due(word, x.grudge(9, 4), 953);
+            due("of another one", x.grudge(8, 4), 53);
+        }
+        GrudgeIce x = of(THREE, COLD, times(9, grudge(9)), "grudge 1 0 over a ice 9");
+        law(x, "freeze 1 if mutual");
+        x.seasons(1);
+        for (int g = 0; g < 10; g++) due("each of ten", x.grudge(g, 4), 10);
+    }
+
     private static void melting() {
         sentence("then what it MELTS by, less what it HARDENS by (0 at least), less (0 at least)");
         due("999 at most first, then less", turned(999, 100, 10, 0), 989);
@@ -256,6 +278,14 @@ public final class SeasonBoundsTest extends Checks {
         due("thawed", y.seasons(1), 2);
         due("not mutual any more", y.grudge(1, 4), 6);
         due("mutual still", y.grudge(2, 4), 9);
+        // what melts and hardens is told by the ice that has frozen just now
+        int[][] rows = {{10, 0, 10}, {9, 1, 10}, {8, 2, 10}, {7, 2, 4}, {995, 9, 999}, {998, 1, 999}};
+        for (int[] row : rows) {
+            GrudgeIce w = of(THREE, COLD, grudge(row[0]));
+            law(w, "freeze " + row[1] + ";melt 5;harden 5 if ice > 9");
+            w.seasons(1);
+            due(row[0] + " and " + row[1], w.grudge(0, 4), row[2]);
+        }
         // what is told of the town is as it was ahead of this SEASON's eating, leaking, ticking
         GrudgeIce z = of(THREE, COLD, grudge(50) + " age 4", "time 2;propped");
         law(z, "melt 1 if age > 4;melt 2 if season > 2;melt 4 if season > 1;melt 8 if propped");
@@ -446,6 +476,7 @@ public final class SeasonBoundsTest extends Checks {
 
     public static void main(String[] args) {
         freezing();
+        lastOnes();
         melting();
         aging();
         eating();

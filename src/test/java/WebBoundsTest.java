@@ -82,8 +82,11 @@ public final class WebBoundsTest extends Checks {
             for (int f = 0; f < 6; f++) due(f + " of " + rows[i], x.ring(f), (due[i] >> f & 1) == 1);
         }
         GrudgeIce x = of(6, "01 12 20");
+        for (int f = 0; f < 6; f++) due("three", x.ring(f), f < 3);
         x.forgive(1);
         for (int f = 0; f < 6; f++) due("none any more", x.ring(f), false);
+        x.insult(1, 2, 0);
+        for (int f = 0; f < 6; f++) due("three again", x.ring(f), f < 3);
         due("one family", of(1, "").ring(0), false);
         for (int f : NONE_SUCH) noSuch("ring of " + f, () -> x.ring(f));
         noSuch("without families", () -> new GrudgeIce().ring(0));
