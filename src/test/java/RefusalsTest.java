@@ -126,6 +126,10 @@ public final class RefusalsTest extends Checks {
             same("back alike", State.of(x), State.of(y));
         }
         GrudgeIce x = full();
+        noNumber("a wrong 13th one", () -> town(x, "kiss 101"));
+        due("its fault", x.fault(), 5);
+        throwsThat("a right 13th one", UnsupportedOperationException.class, () -> town(x, "kiss 9"));
+        due("it was read: no fault", x.fault(), -1);
         x.back();
         due("texts of the image", x.count(2), 3);
         due("there is room again", town(x, "kiss 9"), 4);
