@@ -1109,15 +1109,17 @@ public final class GrudgeIce {
             }
         }
 
+        /* Each "not" makes what stands behind it one deeper. */
         private void readAtom(Law law, int deep) {
-            if (deep >= MOST_DEEP && (text.is(NOT) || text.is(OPEN))) {
+            int inner = deep;
+            while (inner < MOST_DEEP && text.take(NOT)) {
+                inner++;
+            }
+            if (inner >= MOST_DEEP && (text.is(NOT) || text.is(OPEN))) {
                 text.wrong();
             }
-            if (text.take(NOT)) {
-                readAtom(law, deep + 1);
-                law.put(NOT);
-            } else if (text.take(OPEN)) {
-                readCondition(law, deep + 1);
+            if (text.take(OPEN)) {
+                readCondition(law, inner + 1);
                 text.need(CLOSE);
             } else if (text.is(NURSED) || text.is(MUTUAL) || text.is(PROPPED)) {
                 law.put(NURSED + text.among(NURSED, 3));
@@ -1129,6 +1131,9 @@ public final class GrudgeIce {
                 }
                 readSum(law);
                 law.put(than);
+            }
+            for (int nots = deep; nots < inner; nots++) {
+                law.put(NOT);
             }
         }
 
@@ -1928,29 +1933,29 @@ public final class GrudgeIce {
             for (int f = 0; f < MOST_FAMILIES; f++) {
                 with[f] = NONE;
             }
-            pair(all, 0, 0);
+            pair(this, all, 0, 0);
         }
 
         /* All ways for the families from this one on, the first ones first; only a better one is kept. */
-        private void pair(Families all, int family, int pride) {
-            if (family < 0 || family >= families || family >= MOST_FAMILIES) {
-                if (pride > most) {
-                    most = pride;
-                    copy(with, best);
+        private static void pair(Web web, Families all, int family, int pride) {
+            if (family < 0 || family >= web.families || family >= MOST_FAMILIES) {
+                if (pride > web.most) {
+                    web.most = pride;
+                    copy(web.with, web.best);
                 }
                 return;
             }
-            pair(all, family + 1, pride);
-            if (with[family] != NONE) {
+            pair(web, all, family + 1, pride);
+            if (web.with[family] != NONE) {
                 return;
             }
-            for (int other = family + 1; other < families; other++) {
-                if (with[other] == NONE && !has(near[family], other)) {
-                    with[family] = other;
-                    with[other] = family;
-                    pair(all, family + 1, pride + all.pride[family] + all.pride[other]);
-                    with[family] = NONE;
-                    with[other] = NONE;
+            for (int other = family + 1; other < web.families && other < MOST_FAMILIES; other++) {
+                if (web.with[other] == NONE && !has(web.near[family], other)) {
+                    web.with[family] = other;
+                    web.with[other] = family;
+                    pair(web, all, family + 1, pride + all.pride[family] + all.pride[other]);
+                    web.with[family] = NONE;
+                    web.with[other] = NONE;
                 }
             }
         }
